@@ -1945,7 +1945,7 @@ public final class ToldNet {
             for (int a = 0; a < n; a++) {
                 for (int b = a + 1; b < n; b++) {
                     int place = places[a * MOST_POSTS + b];
-                    boolean told = place == TOLD_NOT || place == TOLD_ALSO;
+                    boolean told = place < 0;
                     if (!told && gone[place] > 0 && gone[place] < free[place]) {
                         open.flip(a, b);
                     } else if (told ? place == TOLD_ALSO : isSaid(place) == (gone[place] == 0)) {
@@ -2047,11 +2047,13 @@ public final class ToldNet {
             for (int p = 0; p < n; p++) {
                 int others = partners(kind, a, b, p, (1 << n) - 1);
                 for (int q = 0; q < n && others != 0; q++) {
-                    int place = places[p * MOST_POSTS + q];
-                    if ((others >> q & 1) == 1 && place == TOLD_ALSO) {
-                        total += how == MEAN ? 1000 : 1;
-                    } else if ((others >> q & 1) == 1 && place != TOLD_NOT) {
-                        asked[place]++;
+                    if ((others >> q & 1) == 1) {
+                        int place = places[p * MOST_POSTS + q];
+                        if (place >= 0) {
+                            asked[place]++;
+                        } else if (place == TOLD_ALSO) {
+                            total += how == MEAN ? 1000 : 1;
+                        }
                     }
                 }
             }

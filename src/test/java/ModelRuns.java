@@ -114,10 +114,34 @@ public final class ModelRuns {
                 }
             } else if (one(25)) {
                 call("drop");
+            } else if (seed % 5 == 0 && one(2)) {
+                wild();
             } else {
                 step();
             }
         }
+    }
+
+    /** Any call, with any arguments. */
+    private void wild() {
+        List<String> names = new ArrayList<>(ON_NET.keySet());
+        Collections.sort(names);
+        String name = names.get(below(names.size()));
+        Class<?>[] types = ON_NET.get(name).getParameterTypes();
+        Object[] args = new Object[types.length];
+        for (int i = 0; i < args.length; i++) {
+            args[i] = types[i] == boolean.class ? (Object) one(2) : (Object) anyNumber();
+        }
+        if (name.equals("net") && !one(20)) {
+            return;
+        }
+        call(name, args);
+        n = model.count(0);
+    }
+
+    private int anyNumber() {
+        int[] edges = {Integer.MIN_VALUE, Integer.MAX_VALUE, -1, 16, 17, 31, 32, 64, 255, 256, 1 << 16, -2, 40, 41};
+        return one(6) ? edges[below(edges.length)] : one(20) ? random.nextInt() : below(n + 1);
     }
 
     private void begin(int k) {
