@@ -26,6 +26,7 @@ public final class ToldNet {
     private static final int LEAST = 0;
     private static final int MOST = 1;
     private static final int MEAN = 2;
+    private static final int OFF = 3;
 
     private final Days days = new Days();
     private final Tape tape = new Tape();
@@ -1903,6 +1904,11 @@ public final class ToldNet {
         /** The place of each pair's sort, or what sort of told except it is. */
         private final int[] places = new int[MOST_POSTS * MOST_POSTS];
         private final int[] asked = new int[PLACES];
+        /** The places whose sorts have any R pairs, and those of the pairs asked for. */
+        private final int[] used = new int[MOST_PAIRS];
+        private final int[] hit = new int[MOST_PAIRS];
+        private int usedCount = 0;
+        private int hitCount = 0;
         private final Net sure = new Net();
         private final Net open = new Net();
         private final Net seen = new Net();
@@ -1917,8 +1923,7 @@ public final class ToldNet {
 
         /** Looks at a telling; the answers are from it until the next look. */
         void take(Telling telling) {
-            Arrays.fill(free, 0);
-            Arrays.fill(gone, 0);
+            forget();
             int n = telling.parting.posts;
             for (int a = 0; a < n; a++) {
                 for (int b = a + 1; b < n; b++) {
@@ -1928,14 +1933,32 @@ public final class ToldNet {
                     if (telling.excepts.joins(a, b) && !left) {
                         place = said ? TOLD_NOT : TOLD_ALSO;
                     } else {
-                        free[place]++;
-                        gone[place] += left ? 1 : 0;
+                        countFree(place, left);
                     }
                     places[a * MOST_POSTS + b] = place;
                     places[b * MOST_POSTS + a] = place;
                 }
             }
             settle(n);
+        }
+
+        private void forget() {
+            for (int i = 0; i < usedCount; i++) {
+                free[used[i]] = 0;
+                gone[used[i]] = 0;
+            }
+            usedCount = 0;
+        }
+
+        private void countFree(int place, boolean left) {
+            if (free[place] == 0 && usedCount < MOST_PAIRS) {
+                used[usedCount] = place;
+                usedCount++;
+            }
+            free[place]++;
+            if (left) {
+                gone[place]++;
+            }
         }
 
         /** Finds the pairs that are ties for sure, and those that are open. */
@@ -1968,9 +1991,9 @@ public final class ToldNet {
         int lengthOf(Telling telling) {
             int length = telling.plainLength();
             int boxBits = bits(telling.parting.boxes);
-            for (int place = 0; place < PLACES; place++) {
-                if (gone[place] > 0) {
-                    length += 4 + 2 * boxBits + bits(free[place] + 1);
+            for (int i = 0; i < usedCount; i++) {
+                if (gone[used[i]] > 0) {
+                    length += 4 + 2 * boxBits + bits(free[used[i]] + 1);
                 }
             }
             return length;
@@ -1993,6 +2016,9 @@ public final class ToldNet {
         }
 
         int off(Telling telling, int kind, int a, int b) {
+            if (kind <= CUT) {
+                return sum(telling.parting.posts, kind, a, b, OFF);
+            }
             return answer(telling, kind, a, b, MOST) - answer(telling, kind, a, b, LEAST);
         }
 
@@ -2042,34 +2068,45 @@ public final class ToldNet {
         }
 
         private int sum(int n, int kind, int a, int b, int how) {
-            Arrays.fill(asked, 0);
-            int total = 0;
+            int alsos = 0;
+            hitCount = 0;
             for (int p = 0; p < n; p++) {
                 int others = partners(kind, a, b, p, (1 << n) - 1);
                 for (int q = 0; q < n && others != 0; q++) {
                     if ((others >> q & 1) == 1) {
                         int place = places[p * MOST_POSTS + q];
                         if (place >= 0) {
-                            asked[place]++;
+                            countAsked(place);
                         } else if (place == TOLD_ALSO) {
-                            total += how == MEAN ? 1000 : 1;
+                            alsos++;
                         }
                     }
                 }
             }
-            for (int place = 0; place < PLACES; place++) {
-                if (asked[place] > 0) {
-                    total += share(place, how);
-                }
+            int total = how == OFF ? 0 : how == MEAN ? 1000 * alsos : alsos;
+            for (int i = 0; i < hitCount; i++) {
+                total += share(hit[i], how);
+                asked[hit[i]] = 0;
             }
             return total;
         }
 
-        /** How many ties the pairs asked for in a sort are (a thousand times, if it is the mean). */
+        private void countAsked(int place) {
+            if (asked[place] == 0 && hitCount < MOST_PAIRS) {
+                hit[hitCount] = place;
+                hitCount++;
+            }
+            asked[place]++;
+        }
+
+        /** How many ties the pairs asked for in a sort are (a thousand times, if it is the mean), or how far off. */
         private int share(int place, int how) {
             int pairs = asked[place];
             int fewest = Math.max(0, gone[place] - (free[place] - pairs));
             int most = Math.min(gone[place], pairs);
+            if (how == OFF) {
+                return most - fewest;
+            }
             if (how == MEAN) {
                 int thousandth = free[place] < 1 ? 0 : 1000 * gone[place] * pairs / free[place];
                 return isSaid(place) ? 1000 * pairs - thousandth : thousandth;
