@@ -943,19 +943,19 @@ public final class ToldNet {
 
         /** A word as one number, so that words are numbered as these numbers grow. */
         static int wordOf(int kind, int first, int second) {
-            return (kind * MOST_POSTS + first) * MOST_POSTS + second;
+            return (kind * Text.MOST_BOXES + first) * Text.MOST_BOXES + second;
         }
 
         static int kindOf(int word) {
-            return word / (MOST_POSTS * MOST_POSTS);
+            return word / (Text.MOST_BOXES * Text.MOST_BOXES);
         }
 
         static int firstOf(int word) {
-            return word / MOST_POSTS % MOST_POSTS;
+            return word / Text.MOST_BOXES % Text.MOST_BOXES;
         }
 
         static int secondOf(int word) {
-            return word % MOST_POSTS;
+            return word % Text.MOST_BOXES;
         }
 
         void become(Telling other) {
@@ -1603,6 +1603,8 @@ public final class ToldNet {
 
     /** What a text without a fault of syntax or room tells; its boxes stand as they are told. */
     private static final class Text {
+        /** Faulty texts can tell more boxes than there are posts: each of four tokens or more. */
+        static final int MOST_BOXES = Tape.MOST_TOKENS / 4;
         static final int SYNTAX = 1;
         static final int ROOM = 2;
         private static final int TWICE = 3;
@@ -1610,9 +1612,9 @@ public final class ToldNet {
         private static final int WRONG = 5;
         private static final int OPEN = 6;
 
-        private final long[] names = new long[MOST_POSTS];
-        private final int[] masks = new int[MOST_POSTS];
-        private final int[] starts = new int[MOST_POSTS];
+        private final long[] names = new long[MOST_BOXES];
+        private final int[] masks = new int[MOST_BOXES];
+        private final int[] starts = new int[MOST_BOXES];
         private final int[] row = new int[MOST_POSTS];
         private final int[] words = new int[Tape.MOST_WORDS];
         private final Net said = new Net();
@@ -1724,7 +1726,7 @@ public final class ToldNet {
                 }
                 i++;
             }
-            if (!twice && mask != 0 && boxes < MOST_POSTS) {
+            if (!twice && boxes < MOST_BOXES) {
                 names[boxes] = tape.values[nameAt];
                 masks[boxes] = mask;
                 starts[boxes] = from;
@@ -1732,6 +1734,8 @@ public final class ToldNet {
             }
             return i + 1;
         }
+
+        // a word says its pairs even if it is a fault itself: an also ahead of it may be wrong by them
 
         private void takeOfBox(Tape tape, int i, int kind) {
             int box = boxNamed(tape, i + 1);
@@ -1741,12 +1745,12 @@ public final class ToldNet {
             int size = Integer.bitCount(masks[box]);
             if (size < 2) {
                 blame(WRONG, tape.places[i + 1]);
-            } else if (takeWord(Telling.wordOf(kind, box, 0), tape.places[i])) {
-                if (kind == CROWD) {
-                    said.cross(masks[box], masks[box]);
-                } else {
-                    said.chain(row, starts[box], size);
-                }
+            }
+            takeWord(Telling.wordOf(kind, box, 0), tape.places[i]);
+            if (kind == CROWD) {
+                said.cross(masks[box], masks[box]);
+            } else {
+                said.chain(row, starts[box], size);
             }
         }
 
@@ -1758,9 +1762,9 @@ public final class ToldNet {
             }
             if (one == two) {
                 blame(WRONG, tape.places[i + 2]);
-            } else if (takeWord(Telling.wordOf(SIDES, Math.min(one, two), Math.max(one, two)), tape.places[i])) {
-                said.cross(masks[one], masks[two]);
             }
+            takeWord(Telling.wordOf(SIDES, Math.min(one, two), Math.max(one, two)), tape.places[i]);
+            said.cross(masks[one], masks[two]);
         }
 
         private void takeStar(Tape tape, int i) {
@@ -1771,23 +1775,22 @@ public final class ToldNet {
             }
             if ((masks[box] & ~(1 << post)) == 0) {
                 blame(WRONG, tape.places[i + 2]);
-            } else if (takeWord(Telling.wordOf(STAR, post, box), tape.places[i])) {
-                said.cross(1 << post, masks[box]);
             }
+            takeWord(Telling.wordOf(STAR, post, box), tape.places[i]);
+            said.cross(1 << post, masks[box]);
         }
 
-        private boolean takeWord(int word, int where) {
+        private void takeWord(int word, int where) {
             for (int k = 0; k < wordCount; k++) {
                 if (words[k] == word) {
                     blame(TWICE, where);
-                    return false;
+                    return;
                 }
             }
             if (wordCount < words.length) {
                 words[wordCount] = word;
                 wordCount++;
             }
-            return true;
         }
 
         private void takePair(Tape tape, int i) {

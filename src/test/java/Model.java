@@ -341,7 +341,7 @@ final class Model {
                 row.add(p);
             }
         }
-        if (!twice && !row.isEmpty()) {
+        if (!twice) {
             boxes.put(name.text, row);
         }
     }
@@ -397,12 +397,12 @@ final class Model {
         Token last = tell.get(tell.size() - 1);
         List<Integer> box = boxes.get(last.text);
         List<Object> word;
-        Set<Pair> says = new HashSet<>();
+        Set<Pair> says;
+        boolean itself = false;
         if (kind == 's') {
-            word = List.of('s', Set.copyOf(List.of(tell.get(1).text, last.text)));
-            if (!tell.get(1).text.equals(last.text)) {
-                says = cross(boxes.get(tell.get(1).text), box);
-            }
+            itself = tell.get(1).text.equals(last.text);
+            word = List.of('s', new HashSet<>(List.of(tell.get(1).text, last.text)));
+            says = cross(boxes.get(tell.get(1).text), box);
         } else if (kind == 't') {
             int p = Integer.parseInt(tell.get(1).text);
             word = List.of('t', p, last.text);
@@ -411,13 +411,13 @@ final class Model {
             word = List.of(kind, last.text);
             says = kind == 'c' ? cross(box, box) : chain(box);
         }
-        if (says.isEmpty()) {
+        if (says.isEmpty() || itself) {
             faults.add(new Fault(last.place, 5));
-        } else if (!words.add(word)) {
-            faults.add(new Fault(tell.get(0).place, 3));
-        } else {
-            said.addAll(says);
         }
+        if (!words.add(word)) {
+            faults.add(new Fault(tell.get(0).place, 3));
+        }
+        said.addAll(says);
     }
 
     private static Set<Pair> cross(List<Integer> ones, List<Integer> others) {

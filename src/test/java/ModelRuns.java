@@ -456,7 +456,8 @@ public final class ModelRuns {
             case 2:
                 return new ArrayList<>(List.of("star", "" + below(n), names.get(b)));
             default:
-                return new ArrayList<>(List.of("sides", names.get(b), names.get(m > 1 && b == c ? (b + 1) % m : c)));
+                boolean other = m > 1 && b == c && !one(3);
+                return new ArrayList<>(List.of("sides", names.get(b), names.get(other ? (b + 1) % m : c)));
         }
     }
 

@@ -12,6 +12,8 @@ public final class TextTests {
         wrong();
         open();
         firstFault();
+        faultyWordsSay();
+        faultyBoxes();
         full();
         telling();
         C.finish("TextTests");
@@ -158,6 +160,36 @@ public final class TextTests {
         fault("box a 0 9 0;box a 1;", 5, 8);
         fault(TWO + "sides a b;sides b z;", 4, 38);
         fault(TWO + "crowd z;!", 1, 28);
+    }
+
+    /** An also is wrong by a word told behind, even if that word is a fault itself. */
+    private static void faultyWordsSay() {
+        fault("box a 0 1 2;also 0 1;also 1 0;sides a a;box b 3;", 5, 19);
+        fault(TWO + "also 0 1;sides a a;", 5, 27);
+        fault(TWO + "also 2 3;sides a a;", 5, 37);
+        fault(TWO + "also 0 2;sides a a;", 5, 37);
+        fault(TWO + "sides a a;also 0 1;", 5, 28);
+        fault(TWO + "also 3 2;sides a a;sides b b;", 5, 27);
+        fault(TWO + "also 0 1;crowd b;crowd b;crowd a;", 5, 27);
+        fault("also 0 2;box a 0 9 2;crowd a;box b 1 3;", 5, 7);
+        // what names no box told ahead, or has no pairs, says none
+        fault(TWO + "also 0 1;sides a z;", 4, 37);
+        fault(TWO + "also 0 2;star 2 z;", 4, 36);
+        fault("box a 0;box b 1 2 3;also 0 1;chain a;crowd a;sides a a;", 5, 35);
+        fault("box a 0;box b 1 2 3;also 0 1;star 0 a;star 9 b;", 5, 36);
+    }
+
+    /** The first box of a name is the one that words name, even if none of its posts can be told. */
+    private static void faultyBoxes() {
+        fault("also 0 1;box a 9;box a 0 1;crowd a;", 5, 15);
+        fault("also 0 1;box a 9;box b 0 1;crowd b;", 5, 7);
+        StringBuilder many = new StringBuilder("also 0 1;");
+        for (int i = 0; i < 20; i++) {
+            many.append("box q").append((char) ('a' + i)).append(" 9;");
+        }
+        fault(many + "box z 0 1;crowd z;", 5, 7);
+        fault(many + "box z 0 1;crowd qt;", 5, 16);
+        fault(many + "box z 0 1;sides z z;", 5, 7);
     }
 
     private static void full() {
