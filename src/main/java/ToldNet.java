@@ -943,19 +943,19 @@ public final class ToldNet {
 
         /** A word as one number, so that words are numbered as these numbers grow. */
         static int wordOf(int kind, int first, int second) {
-            return (kind * Text.MOST_BOXES + first) * Text.MOST_BOXES + second;
+            return (kind * MOST_POSTS + first) * MOST_POSTS + second;
         }
 
         static int kindOf(int word) {
-            return word / (Text.MOST_BOXES * Text.MOST_BOXES);
+            return word / (MOST_POSTS * MOST_POSTS);
         }
 
         static int firstOf(int word) {
-            return word / Text.MOST_BOXES % Text.MOST_BOXES;
+            return word / MOST_POSTS % MOST_POSTS;
         }
 
         static int secondOf(int word) {
-            return word % Text.MOST_BOXES;
+            return word % MOST_POSTS;
         }
 
         void become(Telling other) {
@@ -1616,7 +1616,10 @@ public final class ToldNet {
         private final int[] masks = new int[MOST_BOXES];
         private final int[] starts = new int[MOST_BOXES];
         private final int[] row = new int[MOST_POSTS];
-        private final int[] words = new int[Tape.MOST_WORDS];
+        /** Of each word: its kind, its box (of a star its post), the other box. */
+        private final int[] kinds = new int[Tape.MOST_WORDS];
+        private final int[] firsts = new int[Tape.MOST_WORDS];
+        private final int[] seconds = new int[Tape.MOST_WORDS];
         private final Net said = new Net();
         private final Net pairs = new Net();
         private int posts = 2;
@@ -1746,7 +1749,7 @@ public final class ToldNet {
             if (size < 2) {
                 blame(WRONG, tape.places[i + 1]);
             }
-            takeWord(Telling.wordOf(kind, box, 0), tape.places[i]);
+            takeWord(kind, box, 0, tape.places[i]);
             if (kind == CROWD) {
                 said.cross(masks[box], masks[box]);
             } else {
@@ -1763,7 +1766,7 @@ public final class ToldNet {
             if (one == two) {
                 blame(WRONG, tape.places[i + 2]);
             }
-            takeWord(Telling.wordOf(SIDES, Math.min(one, two), Math.max(one, two)), tape.places[i]);
+            takeWord(SIDES, Math.min(one, two), Math.max(one, two), tape.places[i]);
             said.cross(masks[one], masks[two]);
         }
 
@@ -1776,19 +1779,21 @@ public final class ToldNet {
             if ((masks[box] & ~(1 << post)) == 0) {
                 blame(WRONG, tape.places[i + 2]);
             }
-            takeWord(Telling.wordOf(STAR, post, box), tape.places[i]);
+            takeWord(STAR, post, box, tape.places[i]);
             said.cross(1 << post, masks[box]);
         }
 
-        private void takeWord(int word, int where) {
+        private void takeWord(int kind, int first, int second, int where) {
             for (int k = 0; k < wordCount; k++) {
-                if (words[k] == word) {
+                if (kinds[k] == kind && firsts[k] == first && seconds[k] == second) {
                     blame(TWICE, where);
                     return;
                 }
             }
-            if (wordCount < words.length) {
-                words[wordCount] = word;
+            if (wordCount < Tape.MOST_WORDS) {
+                kinds[wordCount] = kind;
+                firsts[wordCount] = first;
+                seconds[wordCount] = second;
                 wordCount++;
             }
         }
@@ -1842,7 +1847,7 @@ public final class ToldNet {
                 System.arraycopy(row, starts[b], out.row, to, size);
             }
             for (int k = 0; k < wordCount; k++) {
-                insert(out, numbered(parting, words[k]));
+                insert(out, numbered(parting, k));
             }
             out.said.become(said);
             out.excepts.become(pairs);
@@ -1861,18 +1866,16 @@ public final class ToldNet {
             return parting.box[row[starts[b]]];
         }
 
-        private int numbered(Parting parting, int word) {
-            int kind = Telling.kindOf(word);
-            int first = Telling.firstOf(word);
-            int second = Telling.secondOf(word);
-            if (kind == STAR) {
-                return Telling.wordOf(STAR, first, numberOf(parting, second));
+        /** The k-th word told, with the numbers that its boxes have in a parting. */
+        private int numbered(Parting parting, int k) {
+            if (kinds[k] == STAR) {
+                return Telling.wordOf(STAR, firsts[k], numberOf(parting, seconds[k]));
             }
-            int one = numberOf(parting, first);
-            if (kind != SIDES) {
-                return Telling.wordOf(kind, one, 0);
+            int one = numberOf(parting, firsts[k]);
+            if (kinds[k] != SIDES) {
+                return Telling.wordOf(kinds[k], one, 0);
             }
-            int two = numberOf(parting, second);
+            int two = numberOf(parting, seconds[k]);
             return Telling.wordOf(SIDES, Math.min(one, two), Math.max(one, two));
         }
 
