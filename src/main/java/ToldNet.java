@@ -596,8 +596,10 @@ public final class ToldNet {
         /** The pairs of posts beside one another in a part of a row come in. */
         void chain(int[] row, int from, int size) {
             for (int i = from; i < from + size - 1 && i + 1 < row.length; i++) {
-                rows[row[i]] |= 1 << row[i + 1];
-                rows[row[i + 1]] |= 1 << row[i];
+                if (row[i] != row[i + 1]) {
+                    rows[row[i]] |= 1 << row[i + 1];
+                    rows[row[i + 1]] |= 1 << row[i];
+                }
             }
         }
 
@@ -1615,7 +1617,9 @@ public final class ToldNet {
         private final long[] names = new long[MOST_BOXES];
         private final int[] masks = new int[MOST_BOXES];
         private final int[] starts = new int[MOST_BOXES];
-        private final int[] row = new int[MOST_POSTS];
+        private final int[] sizes = new int[MOST_BOXES];
+        /** The rows of all boxes, one behind the other; in a faulty text a post can stand in several. */
+        private final int[] row = new int[Tape.MOST_TOKENS];
         /** Of each word: its kind, its box (of a star its post), the other box. */
         private final int[] kinds = new int[Tape.MOST_WORDS];
         private final int[] firsts = new int[Tape.MOST_WORDS];
@@ -1721,7 +1725,8 @@ public final class ToldNet {
                 int post = postTold(tape, i);
                 if (post != NONE && (seen >> post & 1) == 1) {
                     blame(TWICE, tape.places[i]);
-                } else if (post != NONE && placed < MOST_POSTS) {
+                }
+                if (post != NONE && placed < row.length) {
                     seen |= 1 << post;
                     mask |= 1 << post;
                     row[placed] = post;
@@ -1733,27 +1738,27 @@ public final class ToldNet {
                 names[boxes] = tape.values[nameAt];
                 masks[boxes] = mask;
                 starts[boxes] = from;
+                sizes[boxes] = placed - from;
                 boxes++;
             }
             return i + 1;
         }
 
-        // a word says its pairs even if it is a fault itself: an also ahead of it may be wrong by them
+        // a word says its pairs even if it, or an int of its box, is a fault: an also ahead may be wrong by them
 
         private void takeOfBox(Tape tape, int i, int kind) {
             int box = boxNamed(tape, i + 1);
             if (box == NONE) {
                 return;
             }
-            int size = Integer.bitCount(masks[box]);
-            if (size < 2) {
+            if (Integer.bitCount(masks[box]) < 2) {
                 blame(WRONG, tape.places[i + 1]);
             }
             takeWord(kind, box, 0, tape.places[i]);
             if (kind == CROWD) {
                 said.cross(masks[box], masks[box]);
             } else {
-                said.chain(row, starts[box], size);
+                said.chain(row, starts[box], sizes[box]);
             }
         }
 
@@ -1842,9 +1847,8 @@ public final class ToldNet {
             parting.number();
             out.clearWords();
             for (int b = 0; b < boxes; b++) {
-                int size = Integer.bitCount(masks[b]);
                 int to = parting.startOf(numberOf(parting, b));
-                System.arraycopy(row, starts[b], out.row, to, size);
+                System.arraycopy(row, starts[b], out.row, to, sizes[b]);
             }
             for (int k = 0; k < wordCount; k++) {
                 insert(out, numbered(parting, k));

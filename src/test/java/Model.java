@@ -335,9 +335,10 @@ final class Model {
             int p = Integer.parseInt(t.text);
             if (p >= n) {
                 faults.add(new Fault(t.place, 5));
-            } else if (!placed.add(p)) {
-                faults.add(new Fault(t.place, 3));
             } else {
+                if (!placed.add(p)) {
+                    faults.add(new Fault(t.place, 3));
+                }
                 row.add(p);
             }
         }
@@ -435,7 +436,9 @@ final class Model {
     private static Set<Pair> chain(List<Integer> row) {
         Set<Pair> pairs = new HashSet<>();
         for (int i = 1; i < row.size(); i++) {
-            pairs.add(Pair.of(row.get(i - 1), row.get(i)));
+            if (!row.get(i - 1).equals(row.get(i))) {
+                pairs.add(Pair.of(row.get(i - 1), row.get(i)));
+            }
         }
         return pairs;
     }
