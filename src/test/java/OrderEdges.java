@@ -589,6 +589,18 @@ public final class OrderEdges {
         for (int i = -1; i <= 9; i++) {
             C.due("of nine boxes, place " + i, x.at(0, i), -1);
         }
+        // without a line() ahead, and of the telling that is asked, not of the one ahead
+        ToldNet hub = Check.net(3, 0, 1, 0, 2);
+        hub.make(0);
+        int[] due = {1, 0, 2};
+        for (int i = 0; i < 3; i++) {
+            C.due("hub, place " + i, hub.at(0, i), due[i]);
+        }
+        hub.tie(0, 2, false);
+        hub.tie(1, 2, true);
+        hub.make(0);
+        hub.line(0);
+        C.due("path, place 1", hub.at(1, 1), 1);
         x.together(0, 0, 1);
         for (int i = -1; i <= 9; i++) {
             C.due("of eight boxes, place " + i, x.at(0, i), i < 8 ? i : -1);

@@ -25,6 +25,7 @@ public final class QuestionEdges {
         leave();
         leaveRefused();
         sort();
+        askAgain();
         askRefused();
         noMatter();
         meanRefused();
@@ -286,6 +287,18 @@ public final class QuestionEdges {
         ToldNet y = left(false, 0);
         y.reader(0, 2, 3, 9);
         C.due("nothing off", y.harm(0), 0);
+        // of its own posts: 0 1 is told, 2 3 is open, and of post 0 fewer pairs are
+        ToldNet own = left(false, 2);
+        own.leave(0, 0, false);
+        int[][] asked = {{0, 0, 1, 0}, {0, 1, 0, 0}, {0, 2, 3, 1}, {0, 3, 2, 1}, {1, 0, 0, 1}, {2, 1, 0, 1}, {2, 15, 0, 0}, {3, 0, 1, 0},
+            {3, 1, 0, 0}, {4, 2, 3, 2}, {5, 0, 0, 3}};
+        for (int[] q : asked) {
+            own.net(4);
+            Check.read(own, "box a 0 1 2 3;also 0 1;also 0 2;");
+            own.leave(0, 1, true);
+            own.reader(q[0], q[1], q[2], 2);
+            C.due("harm of " + q[0] + " " + q[1] + " " + q[2], own.harm(0), 2 * q[3]);
+        }
         // most less least of far: 4 less 1
         ToldNet z = left(false, 2);
         z.reader(3, 2, 3, 9);
@@ -329,6 +342,25 @@ public final class QuestionEdges {
         C.due("all told", bits.serve(0, 105), 0);
         C.due("its length", bits.length(0), 102);
         C.due("one too short for all", bits.serve(0, 101), 1);
+        // of sets with as much harm the shortest: an also of 91 pairs told, one of a single pair left out
+        ToldNet two = Check.net(16);
+        Check.read(two, "box a 0 1;box b 2 3 4 5 6 7 8 9 10 11 12 13 14 15;also 0 1;also 2 3;");
+        // none told 72 + 7 + 13, the first 72 + 10 + 13, the second 72 + 7 + 10, both 72 + 20
+        C.due("no harm", two.serve(0, 100), 0);
+        C.due("the shortest", two.length(0), 89);
+        C.due("just as long", two.serve(0, 89), 0);
+        C.due("one too short", two.serve(0, 88), -2);
+        C.due("it stays", two.except(0, 0, 3) * 10 + two.except(0, 1, 3), 10);
+        two.reader(0, 2, 3, 5);
+        C.due("both harmless sets", two.serve(0, 95), 0);
+        C.due("the shorter one", two.length(0), 89);
+        // a set with more harm is not told, though it is shorter
+        two.net(16);
+        Check.read(two, "box a 0 1;box b 2 3 4 5 6 7 8 9 10 11 12 13 14 15;also 0 1;also 2 3;");
+        two.reader(0, 2, 3, 5);
+        two.leave(0, 0, true);
+        C.due("least harm", two.serve(0, 1000), 0);
+        C.due("its length", two.length(0), 89);
         // no excepts: one set, the empty one
         ToldNet empty = Check.net(2);
         empty.make(1);
@@ -460,6 +492,18 @@ public final class QuestionEdges {
             y -> y.sort(3, 0, 1, true, 0), y -> y.sort(-1, 0, 1, true, 0), y -> y.sort(2, 0, 1, true, 2),
             y -> y.sort(2, 0, 1, true, -1), y -> y.sort(2, LOW, HIGH, true, 0), y -> y.sort(2, 0, 1, false, HIGH),
             y -> y.sort(LOW, 0, 1, false, 0), y -> y.sort(2, 0, 1, false, LOW), y -> y.sort(HIGH, 0, 1, false, 0));
+    }
+
+    /** One question after the other on one object: each is answered by what is told alone. */
+    private static void askAgain() {
+        C.promise(28, "A QUESTION's LEAST (most: MOST)");
+        ToldNet x = left(false, 3);
+        for (int i = 0; i < 120; i++) {
+            C.due("ties", x.ask(0, 1, i % 4, 0, true), 3);
+            C.due("tied", x.ask(0, 0, i % 4, (i + 1) % 4, false), 0);
+            C.due("cut", x.ask(0, 2, 5, 0, true), 3);
+            C.due("mean", x.mean(0, 2, 5, 0), 2000);
+        }
     }
 
     /** What no kind asks: each kind with what it has not. */

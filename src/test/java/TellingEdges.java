@@ -900,6 +900,8 @@ public final class TellingEdges {
         C.refused(() -> Check.net(9, 0, 1), -1, ToldNet::bests);
         C.due("two as long", Check.net(5, 0, 1).bests(), 2);
         C.due("two posts with a tie", Check.net(2, 0, 1).bests(), 1);
+        // a crowd of 1 2 3 is the least alone, though longer ones ahead of it are alike
+        C.due("alike ones that are longer do not count", Check.net(4, 1, 2, 1, 3, 2, 3).bests(), 1);
         ToldNet x = some();
         String was = Check.state(x);
         x.bests();

@@ -17,6 +17,7 @@ public final class TextEdges {
         boxesInts();
         everyTell();
         rows();
+        again();
         placesOfFaults();
         ofOnePlaceTheLeast();
         syntax();
@@ -216,6 +217,23 @@ public final class TextEdges {
         }
     }
 
+    /** The rows of many texts, one behind the other on one object. */
+    private static void again() {
+        C.promise(10, "The tape, which is empty then, is read: 0, or the number of its FAULT.");
+        ToldNet x = Check.net(16);
+        for (int i = 0; i < 60; i++) {
+            int first = i % 16;
+            StringBuilder text = new StringBuilder("box a " + first + ";box b");
+            for (int p = 15; p >= 0; p--) {
+                text.append(p == first ? "" : " " + p);
+            }
+            C.due("text " + i, Check.read(x, text + ";"), 0);
+            C.due("its box", x.row(0, first == 0 ? 0 : 1, 0), first);
+            C.due("the last of the other row", x.row(0, first == 0 ? 1 : 0, 14), first == 0 ? 1 : 0);
+            x.drop();
+        }
+    }
+
     private static void rows() {
         C.terms("III", "(An INT is a POST; a BOX's INTS are its ROW.)");
         ToldNet x = Check.net(4);
@@ -234,6 +252,13 @@ public final class TextEdges {
         fault("also 0 2;box a 0 1;box b 2 3;star 0 b;box c 0;", 5, 7);
         fault("also 0 2;box a 0 0 1 0;box b 2 3;chain a;", 3, 17);
         fault("also 0 1;box a 0 0 1 0;box b 2 3;chain a;", 5, 7);
+        // as many boxes as there is room for, all but the last of posts that there are not: 400 tokens
+        StringBuilder many = new StringBuilder("also 0 1;");
+        for (int i = 0; i < 97; i++) {
+            many.append("box q").append((char) ('a' + i / 26)).append((char) ('a' + i % 26)).append(" 9;");
+        }
+        fault(many + "box z 0 1;crowd z;", 5, 7);
+        fault(many + "box z 0 1;crowd q;", 5, 9 + 8);
     }
 
     private static void placesOfFaults() {
