@@ -346,7 +346,7 @@ public final class ModelRuns {
     // ---- texts
 
     private void readText() {
-        String text = spaced(tells());
+        String text = spaced(one(4) ? messyTells() : tells());
         if (one(25)) {
             text = garble(text);
         }
@@ -437,6 +437,40 @@ public final class ModelRuns {
         }
         if (one(12) && !tokens.isEmpty()) {
             tokens.remove(below(tokens.size()));
+        }
+        return tokens;
+    }
+
+    /** Tells as they come, most of them with faults of meaning. */
+    private List<String> messyTells() {
+        String[] names = {"a", "b", "c"};
+        List<String> tokens = new ArrayList<>();
+        int tells = 2 + below(9);
+        for (int i = 0; i < tells; i++) {
+            String name = names[below(3)];
+            switch (below(8)) {
+                case 0:
+                    tokens.addAll(List.of("crowd", name));
+                    break;
+                case 1:
+                    tokens.addAll(List.of("chain", name));
+                    break;
+                case 2:
+                    tokens.addAll(List.of("sides", name, names[below(3)]));
+                    break;
+                case 3:
+                    tokens.addAll(List.of("star", "" + below(n + 1), name));
+                    break;
+                case 4, 5:
+                    tokens.addAll(List.of(one(4) ? "not" : "also", "" + below(n), "" + below(one(9) ? n + 1 : n)));
+                    break;
+                default:
+                    tokens.addAll(List.of("box", name, "" + below(n)));
+                    for (int k = below(n + 1); k > 0; k--) {
+                        tokens.add("" + below(one(9) ? n + 1 : n));
+                    }
+            }
+            tokens.add(";");
         }
         return tokens;
     }

@@ -288,8 +288,7 @@ public final class QuestionEdges {
         y.reader(0, 2, 3, 9);
         C.due("nothing off", y.harm(0), 0);
         // of its own posts: 0 1 is told, 2 3 is open, and of post 0 fewer pairs are
-        ToldNet own = left(false, 2);
-        own.leave(0, 0, false);
+        ToldNet own = new ToldNet();
         int[][] asked = {{0, 0, 1, 0}, {0, 1, 0, 0}, {0, 2, 3, 1}, {0, 3, 2, 1}, {1, 0, 0, 1}, {2, 1, 0, 1}, {2, 15, 0, 0}, {3, 0, 1, 0},
             {3, 1, 0, 0}, {4, 2, 3, 2}, {5, 0, 0, 3}};
         for (int[] q : asked) {
