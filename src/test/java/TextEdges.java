@@ -221,7 +221,7 @@ public final class TextEdges {
     private static void again() {
         C.promise(10, "The tape, which is empty then, is read: 0, or the number of its FAULT.");
         ToldNet x = Check.net(16);
-        for (int i = 0; i < 60; i++) {
+        for (int i = 0; i < 45; i++) {
             int first = i % 16;
             StringBuilder text = new StringBuilder("box a " + first + ";box b");
             for (int p = 15; p >= 0; p--) {
