@@ -593,12 +593,14 @@ public final class ToldNet {
             }
         }
 
-        /** The pairs of posts beside one another in a part of a row come in. */
+        /** The pairs of posts beside one another in a part of a row come in; NONE in it is no post. */
         void chain(int[] row, int from, int size) {
             for (int i = from; i < from + size - 1 && i + 1 < row.length; i++) {
-                if (row[i] != row[i + 1]) {
-                    rows[row[i]] |= 1 << row[i + 1];
-                    rows[row[i + 1]] |= 1 << row[i];
+                int p = row[i];
+                int q = row[i + 1];
+                if (p != NONE && q != NONE && p != q) {
+                    rows[p] |= 1 << q;
+                    rows[q] |= 1 << p;
                 }
             }
         }
@@ -1618,7 +1620,7 @@ public final class ToldNet {
         private final int[] masks = new int[MOST_BOXES];
         private final int[] starts = new int[MOST_BOXES];
         private final int[] sizes = new int[MOST_BOXES];
-        /** The rows of all boxes, one behind the other; in a faulty text a post can stand in several. */
+        /** The rows of all boxes, one behind the other; in a faulty text a post can stand in several, NONE for no post. */
         private final int[] row = new int[Tape.MOST_TOKENS];
         /** Of each word: its kind, its box (of a star its post), the other box. */
         private final int[] kinds = new int[Tape.MOST_WORDS];
@@ -1723,12 +1725,14 @@ public final class ToldNet {
             int i = nameAt + 1;
             while (i < tape.tokens && tape.kinds[i] == Tape.INT) {
                 int post = postTold(tape, i);
-                if (post != NONE && (seen >> post & 1) == 1) {
-                    blame(TWICE, tape.places[i]);
-                }
-                if (post != NONE && placed < row.length) {
+                if (post != NONE) {
+                    if ((seen >> post & 1) == 1) {
+                        blame(TWICE, tape.places[i]);
+                    }
                     seen |= 1 << post;
                     mask |= 1 << post;
+                }
+                if (placed < row.length) {
                     row[placed] = post;
                     placed++;
                 }
@@ -1867,7 +1871,8 @@ public final class ToldNet {
         }
 
         private int numberOf(Parting parting, int b) {
-            return parting.box[row[starts[b]]];
+            int post = row[starts[b]];
+            return post == NONE ? 0 : parting.box[post];
         }
 
         /** The k-th word told, with the numbers that its boxes have in a parting. */

@@ -335,12 +335,10 @@ final class Model {
             int p = Integer.parseInt(t.text);
             if (p >= n) {
                 faults.add(new Fault(t.place, 5));
-            } else {
-                if (!placed.add(p)) {
-                    faults.add(new Fault(t.place, 3));
-                }
-                row.add(p);
+            } else if (!placed.add(p)) {
+                faults.add(new Fault(t.place, 3));
             }
+            row.add(p);
         }
         if (!twice) {
             boxes.put(name.text, row);
