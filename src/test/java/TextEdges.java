@@ -17,6 +17,7 @@ public final class TextEdges {
         boxesInts();
         everyTell();
         rows();
+        rowsOfFaults();
         again();
         placesOfFaults();
         ofOnePlaceTheLeast();
@@ -252,11 +253,6 @@ public final class TextEdges {
         fault("also 0 2;box a 0 1;box b 2 3;star 0 b;box c 0;", 5, 7);
         fault("also 0 2;box a 0 0 1 0;box b 2 3;chain a;", 3, 17);
         fault("also 0 1;box a 0 0 1 0;box b 2 3;chain a;", 5, 7);
-        // an INT that is no POST parts the two on both sides of it: the chain does not say 0 1, so the second also is TWICE
-        fault("also 0 1;also 1 0;box a 0 9 1;box b 2 3;chain a;", 3, 16);
-        fault("also 0 1;also 1 0;box a 9 0 1;box b 2 3;chain a;", 5, 7);
-        fault("also 0 1;also 1 0;box a 0 9 1;box b 2 3;crowd a;", 5, 7);
-        fault("also 0 1;box a 0 9 1;box b 2 3;chain a;", 5, 17);
         // as many boxes as there is room for, all but the last of posts that there are not: 400 tokens
         StringBuilder many = new StringBuilder("also 0 1;");
         for (int i = 0; i < 97; i++) {
@@ -264,6 +260,19 @@ public final class TextEdges {
         }
         fault(many + "box z 0 1;crowd z;", 5, 7);
         fault(many + "box z 0 1;crowd q;", 5, 9 + 8);
+    }
+
+    /** An INT that is no POST parts the two on both sides of it: the chain does not say 0 1, so the second also is TWICE. */
+    private static void rowsOfFaults() {
+        C.promise(10, "The tape, which is empty then, is read: 0, or the number of its FAULT.");
+        C.terms("II", "a CHAIN of a BOX (of two POSTS or more) each two beside one another in its ROW");
+        C.terms("III", "(An INT is a POST; a BOX's INTS are its ROW.)");
+        fault("also 0 1;also 1 0;box a 0 9 1;box b 2 3;chain a;", 3, 16);
+        fault("also 0 1;also 1 0;box a 9 0 1;box b 2 3;chain a;", 5, 7);
+        fault("also 0 1;also 1 0;box a 0 9 1;box b 2 3;crowd a;", 5, 7);
+        fault("also 0 1;box a 0 9 1;box b 2 3;chain a;", 5, 17);
+        fault("also 0 1;box a 0 9 1;box b 2 3;crowd a;", 5, 7);
+        fault("also 2 3;also 3 2;box a 0 1;box b 2 4 4 3 4;chain b;", 3, 16);
     }
 
     private static void placesOfFaults() {
